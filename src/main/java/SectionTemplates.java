@@ -63,9 +63,9 @@ public final class SectionTemplates {
     private final Fraction told;
 
     public SectionTemplates() {
-        reader = new Reader();
         templates = new Templates();
         draft = new Templates();
+        reader = new Reader(draft);
         ground = new Ground();
         walkedGround = new Ground();
         landLeft = FARTHEST_LAND;
@@ -361,6 +361,10 @@ public final class SectionTemplates {
         /** The orders that wait for the end of their steps in ( ), the outermost first. */
         private final int[] waiting = new int[MOST_OPEN];
         private int open;
+
+        Reader(Templates into) {
+            this.into = into;
+        }
 
         boolean collect(int sign) {
             if (sign < FIRST_SIGN || sign > LAST_SIGN || size >= signs.length) {
@@ -799,7 +803,7 @@ public final class SectionTemplates {
         private Side side;
         private final Fraction here = new Fraction(SMALL);
         private final Fraction there = new Fraction(SMALL);
-        private final Fraction whole = new Fraction(SMALL);
+        private final Fraction spare = new Fraction(SMALL);
 
         Walker(Section section, Ground ground, Arithmetic arithmetic) {
             this.section = section;
@@ -880,48 +884,46 @@ public final class SectionTemplates {
         private void slope(long up, long over) {
             long gap = gapUp();
             int way = Long.compare(gap, 0);
-            long out = side.out(side.last);
-            long height = side.height(side.last);
-            arithmetic.ratio(side.endOut, out, 1);
-            if (way != 0) {
-                arithmetic.ratio(here, Math.abs(gap), gapLow());
-                meet(way, up, over);
-            }
-            arithmetic.ratio(there, -out, 1);
-            arithmetic.add(there, side.endOut, there, 1);
-            arithmetic.ratio(whole, way * up, over);
-            arithmetic.product(there, there, whole, false);
-            arithmetic.ratio(whole, height, THOUSAND);
-            arithmetic.add(side.endLevel, whole, there, 1);
+            arithmetic.ratio(here, Math.abs(gap), gapLow());
+            meet(way, up, over);
+            arithmetic.ratio(spare, side.out(side.last), 1);
+            arithmetic.add(there, side.endOut, spare, -1);
+            arithmetic.ratio(spare, way * up, over);
+            arithmetic.product(there, there, spare, false);
+            arithmetic.ratio(spare, side.height(side.last), THOUSAND);
+            arithmetic.add(side.endLevel, spare, there, 1);
             side.add(SLOPE, 0, 0, way * up, over);
             side.ended = true;
         }
 
-        /** From a gap {@code here}, out from one point of the ground to the next until the slope has closed it. */
+        /**
+         * From the gap {@code here}, out from one point of the ground to the next until the slope has closed it;
+         * {@code here} becomes the way from the last one of them.
+         */
         private void meet(int way, long up, long over) {
             long out = side.out(side.last);
             long height = side.height(side.last);
             long place = out;
+            // How far out each mm of the gap takes to close: by the slope alone, where the ground is level to the end.
+            arithmetic.ratio(spare, over, up);
             for (int n = 0; n <= MOST_POINTS; n++) {
                 int point = ground.nextPoint(side.sign, place);
                 if (point < 0) {
-                    arithmetic.ratio(there, over, up);
-                    arithmetic.product(here, here, there, false);
                     break;
                 }
                 long next = ground.outOf(point, side.sign);
                 long left = way * over * (THOUSAND * ground.levelOf(point) - height) - THOUSAND * up * (next - out);
                 arithmetic.ratio(there, left, THOUSAND * over);
                 if (left <= 0) {
-                    arithmetic.add(whole, here, there, -1);
-                    arithmetic.product(here, here, whole, true);
-                    arithmetic.ratio(there, next - place, 1);
-                    arithmetic.product(here, here, there, false);
+                    arithmetic.add(there, here, there, -1);
+                    arithmetic.ratio(spare, next - place, 1);
+                    arithmetic.product(spare, spare, there, true);
                     break;
                 }
                 arithmetic.ratio(here, left, THOUSAND * over);
                 place = next;
             }
+            arithmetic.product(here, here, spare, false);
             arithmetic.ratio(there, place, 1);
             arithmetic.add(side.endOut, there, here, 1);
         }
@@ -1117,7 +1119,7 @@ public final class SectionTemplates {
 
         /**
          * The sum of one fraction and, by {@code way} 1 or -1, another one or its opposite. Only what both lower
-         * parts have in common can be cancelled from the sum, so the common factor of the large numbers is never sought.
+         * parts have in common can be cancelled from it, so that two large numbers' common factor is never sought.
          */
         void add(Fraction into, Fraction a, Fraction b, int way) {
             findCommon(common, a.low, b.low);
@@ -1126,23 +1128,21 @@ public final class SectionTemplates {
             aUp.product(a.up, bLow);
             bUp.product(b.up, aLow);
             int bSign = b.sign * way;
-            int sign = a.sign;
+            int order = aUp.compare(bUp);
+            int sign = order >= 0 ? a.sign : bSign;
             if (a.sign * bSign >= 0) {
                 up.sum(aUp, bUp);
-                sign = a.sign != 0 ? a.sign : bSign;
             } else {
-                int order = aUp.compare(bUp);
-                sign = a.sign * order;
                 up.difference(order >= 0 ? aUp : bUp, order >= 0 ? bUp : aUp);
             }
             findCommon(again, up, common);
             divide(bLow, b.low, again);
             divide(into.up, up, again);
             into.low.product(aLow, bLow);
-            into.sign = sign;
+            into.sign = into.up.size > 0 ? sign : 0;
         }
 
-        /** One fraction by another one, or, if {@code inverse}, by what that is the inverse of. */
+        /** One fraction by another one or, if {@code inverse}, by that one's inverse; 0 has none. */
         void product(Fraction into, Fraction a, Fraction b, boolean inverse) {
             if (inverse && b.sign == 0) {
                 return;
@@ -1358,8 +1358,8 @@ public final class SectionTemplates {
             }
             long upper = high + 1 < size && high + 1 < limbs.length ? limbs[high + 1] * BASE : 0;
             long times = (upper + limbs[high]) / (divisor.limbs[top] + 1);
-            if (times > 0 || upper > 0) {
-                return Math.max(1, times);
+            if (times > 0) {
+                return times;
             }
             for (int i = top; i >= 0; i--) {
                 if (limbs[shift + i] != divisor.limbs[i]) {
