@@ -1289,7 +1289,7 @@ public final class SectionTemplates {
 
         /** The product of two numbers that are not this one. */
         void product(Whole a, Whole b) {
-            int most = Math.min(limbs.length, a.size + b.size);
+            int most = a.size > 0 && b.size > 0 ? Math.min(limbs.length, a.size + b.size) : 0;
             for (int i = 0; i < most; i++) {
                 limbs[i] = 0;
             }

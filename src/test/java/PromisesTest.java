@@ -17,6 +17,7 @@ public final class PromisesTest {
         promise1NewObject();
         promise2Unit();
         promise3ReadTexts();
+        promise3ReadAfterLongerTexts();
         promise3ReadLimits();
         promise3ReadAndTheSection();
         promise4Ground();
@@ -191,6 +192,22 @@ public final class PromisesTest {
         for (Object[] row : texts) {
             is("read '" + row[0] + "'", read(new SectionTemplates(), (String) row[0]), (int) row[1]);
         }
+    }
+
+    /** What an earlier text left behind the end of a later one must not count. */
+    private static void promise3ReadAfterLongerTexts() {
+        SectionTemplates x = new SectionTemplates();
+        is("read", read(x, "{W}"), 1);
+        is("no } left over", read(x, "{W"), -3);
+        is("read", read(x, "{L1 23}"), 1);
+        is("no digit left over", read(x, "{L1 2"), -6);
+        is("read", read(x, "{       }"), 1);
+        is("no blank left over", read(x, "{"), -2);
+        is("read", read(x, "{}      {}"), 2);
+        is("no template left over", read(x, "{}    "), 1);
+        is("a whole text of blanks", read(x, "{" + " ".repeat(399)), -401);
+        is("a whole text", read(x, "{" + " ".repeat(398) + "}"), 1);
+        is("a whole text", read(x, "{L1 " + " ".repeat(395) + "0"), -401);
     }
 
     private static void promise3ReadLimits() {
