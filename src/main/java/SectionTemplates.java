@@ -1233,7 +1233,7 @@ public final class SectionTemplates {
         }
 
         void copy(Whole other) {
-            int most = Math.min(limbs.length, other.size);
+            int most = other.size < limbs.length ? other.size : limbs.length;
             for (int i = 0; i < most; i++) {
                 limbs[i] = other.limbs[i];
             }
@@ -1261,7 +1261,8 @@ public final class SectionTemplates {
         }
 
         void sum(Whole a, Whole b) {
-            int most = Math.min(limbs.length, Math.max(a.size, b.size) + 1);
+            int longer = a.size > b.size ? a.size : b.size;
+            int most = longer < limbs.length ? longer + 1 : limbs.length;
             long carry = 0;
             int used = 0;
             for (int i = 0; i < most; i++) {
@@ -1275,7 +1276,7 @@ public final class SectionTemplates {
 
         /** a less b, which is not greater. */
         void difference(Whole a, Whole b) {
-            int most = Math.min(limbs.length, a.size);
+            int most = a.size < limbs.length ? a.size : limbs.length;
             long borrow = 0;
             int used = 0;
             for (int i = 0; i < most; i++) {
@@ -1289,7 +1290,8 @@ public final class SectionTemplates {
 
         /** The product of two numbers that are not this one. */
         void product(Whole a, Whole b) {
-            int most = a.size > 0 && b.size > 0 ? Math.min(limbs.length, a.size + b.size) : 0;
+            int both = a.size > 0 && b.size > 0 ? a.size + b.size : 0;
+            int most = both < limbs.length ? both : limbs.length;
             for (int i = 0; i < most; i++) {
                 limbs[i] = 0;
             }
@@ -1310,7 +1312,7 @@ public final class SectionTemplates {
         }
 
         void scale(Whole a, long factor) {
-            int most = Math.min(limbs.length, a.size + 1);
+            int most = a.size < limbs.length ? a.size + 1 : limbs.length;
             long carry = 0;
             int used = 0;
             for (int i = 0; i < most; i++) {
@@ -1335,7 +1337,7 @@ public final class SectionTemplates {
         }
 
         void beginDigits(int digits) {
-            size = Math.max(0, Math.min(limbs.length, digits));
+            size = digits < 0 ? 0 : digits < limbs.length ? digits : limbs.length;
         }
 
         /** From the highest on: a 0 there is none of the number's limbs. */

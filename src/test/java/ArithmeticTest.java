@@ -83,7 +83,8 @@ public final class ArithmeticTest {
             low = a[1].multiply(inverse ? b[0] : b[1]);
         }
         BigInteger common = up.gcd(low);
-        is("sign " + what, BigInteger.valueOf((int) field(into, "sign")), BigInteger.valueOf(up.signum() * low.signum()));
+        BigInteger sign = BigInteger.valueOf(up.signum() * low.signum());
+        is("sign " + what, BigInteger.valueOf((int) field(into, "sign")), sign);
         is("up " + what, value(field(into, "up")), up.divide(common).abs());
         is("low " + what, value(field(into, "low")), low.divide(common).abs());
     }
@@ -92,7 +93,8 @@ public final class ArithmeticTest {
         BigInteger up = number(5);
         BigInteger low = number(5).max(BigInteger.ONE).multiply(shared);
         BigInteger common = up.gcd(low);
-        return new BigInteger[] {RANDOM.nextBoolean() ? up.divide(common) : up.divide(common).negate(), low.divide(common)};
+        BigInteger sign = BigInteger.valueOf(RANDOM.nextBoolean() ? 1 : -1);
+        return new BigInteger[] {up.divide(common).multiply(sign), low.divide(common)};
     }
 
     private static BigInteger number(int most) {

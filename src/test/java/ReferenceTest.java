@@ -187,7 +187,8 @@ public final class ReferenceTest {
                     Rational value = !there || axis < 0 || axis > 1 ? null
                             : axis == 0 ? r.corners.get(k).off : r.corners.get(k).level;
                     for (int part = -2; part < 6; part++) {
-                        due("corner(" + k + ", " + axis + ", " + part + ")", x.corner(k, axis, part), part(value, part));
+                        String call = "corner(" + k + ", " + axis + ", " + part + ")";
+                        due(call, x.corner(k, axis, part), part(value, part));
                     }
                 }
             }
@@ -756,7 +757,8 @@ public final class ReferenceTest {
                 if (slope.compare(rise) == 0) {
                     continue;
                 }
-                Rational place = height.minus(y).plus(slope.times(x)).minus(rise.times(through)).over(slope.minus(rise));
+                Rational apart = height.minus(rise.times(through)).minus(y.minus(slope.times(x)));
+                Rational place = apart.over(slope.minus(rise));
                 Rational there = y.plus(slope.times(place.minus(x)));
                 boolean outwards = place.compare(x) * side > 0;
                 if (outwards && there.compare(earth(place)) == 0
