@@ -1,138 +1,65 @@
 import java.lang.reflect.Constructor;
 import java.lang.reflect.Field;
+import java.lang.reflect.Member;
 import java.lang.reflect.Method;
 import java.lang.reflect.Modifier;
 import java.math.BigInteger;
 import java.util.TreeSet;
 
-/** The document's promises one by one, with answers worked out by hand. */
-public final class PromisesTest {
-    private static final long BAD = -1;
-    private static final long NONE = -2;
-    private static int wrong;
-    private static int checked;
-
+/** The document's promises one by one, on ordinary inputs, with answers worked out by hand. */
+public final class PromisesTest extends Checks {
     public static void main(String[] args) {
-        face();
-        promise1NewObject();
-        promise2Unit();
-        promise3ReadTexts();
-        promise3ReadAfterLongerTexts();
-        promise3ReadLimits();
-        promise3ReadAndTheSection();
-        promise4Ground();
-        promise5Clear();
-        promise6Axis();
-        promise7Land();
-        promise8Run();
-        promise8Conditions();
-        promise8SlopesAndWalls();
-        promise9Corner();
-        promise10Code();
-        promise11Ended();
-        promise12Passed();
-        promise13Condition();
-        promise14Area();
-        promise14AreaStays();
-        promise15Level();
-        promise16Keep();
-        promise17Volume();
-        promise18Count();
-        System.out.println(checked + " checks, " + wrong + " wrong");
-        if (wrong > 0) {
-            System.exit(1);
-        }
+        runAll(PromisesTest.class);
     }
 
-    private static void is(String what, long got, long want) {
-        checked++;
-        if (got != want) {
-            wrong++;
-            System.out.println(what + ": got " + got + ", due is " + want);
-        }
-    }
-
-    private static void yes(String what, boolean got) {
-        is(what, got ? 1 : 0, 1);
-    }
-
-    private static void no(String what, boolean got) {
-        is(what, got ? 1 : 0, 0);
-    }
-
-    private static int read(SectionTemplates x, String text) {
-        for (char sign : text.toCharArray()) {
-            yes("unit of " + text, x.unit(sign));
-        }
-        return x.read();
-    }
-
-    private static SectionTemplates with(String text) {
-        SectionTemplates x = new SectionTemplates();
-        is("read " + text, read(x, text), 1);
-        return x;
-    }
-
-    private static void corner(SectionTemplates x, int k, int axis, long up, long low) {
-        String what = "corner " + k + " axis " + axis;
-        is(what + " sign", x.corner(k, axis, -1), Long.signum(up));
-        is(what + " up", x.corner(k, axis, 0), Math.abs(up));
-        is(what + " low", x.corner(k, axis, 1), low);
-        is(what + " behind the last", x.corner(k, axis, 2), 0);
-        is(what + " behind the last", x.corner(k, axis, 3), 0);
-    }
-
-    private static void corner(SectionTemplates x, int k, long off, long level) {
-        corner(x, k, 0, off, 1);
-        corner(x, k, 1, level, 1);
-    }
-
-    private static void area(SectionTemplates x, boolean cut, long up, long low) {
-        String what = cut ? "cut" : "fill";
-        is(what + " sign", x.area(cut, -1), Long.signum(up));
-        is(what + " up", x.area(cut, 0), up);
-        is(what + " low", x.area(cut, 1), low);
-        is(what + " part 2", x.area(cut, 2), 0);
-        is(what + " part 3", x.area(cut, 3), 0);
-    }
-
-    private static void level(SectionTemplates x, int off, long up, long low) {
-        String what = "level at " + off;
-        is(what + " sign", x.level(off, -1), Long.signum(up));
-        is(what + " up", x.level(off, 0), Math.abs(up));
-        is(what + " low", x.level(off, 1), low);
-        is(what + " part 2", x.level(off, 2), 0);
-    }
-
-    private static void noLevel(SectionTemplates x, int off) {
-        is("no level at " + off, x.level(off, -1), NONE);
-        is("no level at " + off, x.level(off, 0), BAD);
-        is("no level at " + off, x.level(off, 1), BAD);
-        is("no level at " + off, x.level(off, -2), BAD);
-    }
-
-    private static void face() {
-        TreeSet<String> names = new TreeSet<>();
+    /** The public face, member by member, and nothing else that is not private. */
+    static void face() {
+        TreeSet<String> members = new TreeSet<>();
         for (Method method : SectionTemplates.class.getDeclaredMethods()) {
-            if (!Modifier.isPrivate(method.getModifiers())) {
-                names.add(method.getName());
-            }
+            addIfSeen(members, method, method.toGenericString());
         }
         for (Field field : SectionTemplates.class.getDeclaredFields()) {
-            if (!Modifier.isPrivate(field.getModifiers())) {
-                names.add(field.getName());
-            }
+            addIfSeen(members, field, field.toGenericString());
         }
-        yes("the face is " + names, names.toString().equals("[BAD, NONE, area, axis, clear, code, condition, corner, "
-                + "count, ended, ground, keep, land, level, passed, read, run, unit, volume]"));
-        Constructor<?>[] constructors = SectionTemplates.class.getConstructors();
-        is("constructors", constructors.length, 1);
+        for (Constructor<?> constructor : SectionTemplates.class.getDeclaredConstructors()) {
+            addIfSeen(members, constructor, constructor.toGenericString());
+        }
+        String[] due = {
+            "public SectionTemplates()",
+            "public boolean SectionTemplates.axis(int,int)",
+            "public boolean SectionTemplates.ended(int)",
+            "public boolean SectionTemplates.ground(int,int)",
+            "public boolean SectionTemplates.land(int,int)",
+            "public boolean SectionTemplates.passed(int)",
+            "public boolean SectionTemplates.unit(int)",
+            "public int SectionTemplates.code(int)",
+            "public int SectionTemplates.condition(int)",
+            "public int SectionTemplates.count(int)",
+            "public int SectionTemplates.keep(int)",
+            "public int SectionTemplates.read()",
+            "public int SectionTemplates.run(int)",
+            "public long SectionTemplates.area(boolean,int)",
+            "public long SectionTemplates.corner(int,int,int)",
+            "public long SectionTemplates.level(int,int)",
+            "public long SectionTemplates.volume(boolean,int)",
+            "public static final int SectionTemplates.BAD",
+            "public static final int SectionTemplates.NONE",
+            "public void SectionTemplates.clear()",
+        };
+        same("the face", String.join("; ", members), String.join("; ", due));
+        is("the class, public and final", SectionTemplates.class.getModifiers(), Modifier.PUBLIC | Modifier.FINAL);
         is("BAD", SectionTemplates.BAD, BAD);
         is("NONE", SectionTemplates.NONE, NONE);
     }
 
-    private static void promise1NewObject() {
-        SectionTemplates x = new SectionTemplates();
+    private static void addIfSeen(TreeSet<String> members, Member member, String text) {
+        if (!Modifier.isPrivate(member.getModifiers())) {
+            members.add(text);
+        }
+    }
+
+    static void promise1NewObject() {
+        Road x = new Road();
         for (int what = 0; what <= 5; what++) {
             is("new: count " + what, x.count(what), 0);
         }
@@ -150,8 +77,8 @@ public final class PromisesTest {
         no("land goes 1,000,000 far", x.passed(1));
     }
 
-    private static void promise2Unit() {
-        SectionTemplates x = new SectionTemplates();
+    static void promise2Unit() {
+        Road x = new Road();
         for (int sign : new int[] {31, 127, 0, -1, 10, 9, 255, 300, Integer.MIN_VALUE, Integer.MAX_VALUE}) {
             no("unit " + sign, x.unit(sign));
         }
@@ -170,7 +97,7 @@ public final class PromisesTest {
         is("collected", x.count(4), 1);
     }
 
-    private static void promise3ReadTexts() {
+    static void promise3ReadTexts() {
         Object[][] texts = {
             {"", -1}, {"   ", -4}, {"{", -2}, {"{ ", -3}, {"x", -1}, {"  x", -3}, {"{}", 1}, {" { } {} ", 2},
             {"{}{}{}", 3}, {"{}x", -3}, {"{} }", -4}, {"{}{", -4}, {"{{}", -2}, {"{Q}", -2}, {"{l1 2}", -2},
@@ -192,28 +119,12 @@ public final class PromisesTest {
             {"{?c(L1)}", -7},
         };
         for (Object[] row : texts) {
-            is("read '" + row[0] + "'", read(new SectionTemplates(), (String) row[0]), (int) row[1]);
+            is("read '" + row[0] + "'", read(new Road(), (String) row[0]), (int) row[1]);
         }
     }
 
-    /** What an earlier text left behind the end of a later one must not count. */
-    private static void promise3ReadAfterLongerTexts() {
-        SectionTemplates x = new SectionTemplates();
-        is("read", read(x, "{W}"), 1);
-        is("no } left over", read(x, "{W"), -3);
-        is("read", read(x, "{L1 23}"), 1);
-        is("no digit left over", read(x, "{L1 2"), -6);
-        is("read", read(x, "{       }"), 1);
-        is("no blank left over", read(x, "{"), -2);
-        is("read", read(x, "{}      {}"), 2);
-        is("no template left over", read(x, "{}    "), 1);
-        is("a whole text of blanks", read(x, "{" + " ".repeat(399)), -401);
-        is("a whole text", read(x, "{" + " ".repeat(398) + "}"), 1);
-        is("a whole text", read(x, "{L1 " + " ".repeat(395) + "0"), -401);
-    }
-
-    private static void promise3ReadLimits() {
-        SectionTemplates x = new SectionTemplates();
+    static void promise3ReadLimits() {
+        Road x = new Road();
         is("six templates", read(x, "{}{}{}{}{}{}"), 6);
         is("seven templates", read(x, "{}{}{}{}{}{}{}"), -13);
         is("seven templates", read(x, "{}{}{}{}{}{} {Q"), -14);
@@ -234,8 +145,8 @@ public final class PromisesTest {
         is("six ( open in the others", read(x, "{?c():(?c():(?c():(?c():(?c():(?c()"), -34);
     }
 
-    private static void promise3ReadAndTheSection() {
-        SectionTemplates x = new SectionTemplates();
+    static void promise3ReadAndTheSection() {
+        Road x = new Road();
         is("read", read(x, "{L10 0 ?o() W}"), 1);
         is("run", x.run(0), 5);
         is("wrong text", read(x, "{L10}"), -5);
@@ -261,8 +172,8 @@ public final class PromisesTest {
         is("run", x.run(1), 1);
     }
 
-    private static void promise4Ground() {
-        SectionTemplates x = new SectionTemplates();
+    static void promise4Ground() {
+        Road x = new Road();
         for (int bad : new int[] {-100001, 100001, Integer.MIN_VALUE, Integer.MAX_VALUE}) {
             no("off", x.ground(bad, 0));
             no("level", x.ground(0, bad));
@@ -278,7 +189,7 @@ public final class PromisesTest {
         }
         no("there are 12", x.ground(100000, 0));
         is("points", x.count(1), 12);
-        SectionTemplates y = with("{L10 0 W}");
+        Road y = with("{L10 0 W}");
         yes("point", y.ground(-6, 3));
         yes("point", y.ground(4, 8));
         yes("point", y.ground(14, 0));
@@ -291,8 +202,8 @@ public final class PromisesTest {
         corner(y, 0, 0, 6);
     }
 
-    private static void promise5Clear() {
-        SectionTemplates x = with("{J5 1 W}");
+    static void promise5Clear() {
+        Road x = with("{J5 1 W}");
         yes("point", x.ground(50, 90));
         x.run(0);
         corner(x, 0, -5, 90);
@@ -305,8 +216,8 @@ public final class PromisesTest {
         is("one point", x.count(1), 1);
     }
 
-    private static void promise6Axis() {
-        SectionTemplates x = with("{B1000}");
+    static void promise6Axis() {
+        Road x = with("{B1000}");
         yes("axis", x.axis(100000, 150));
         yes("axis", x.axis(-100000, -150));
         for (int bad : new int[] {100001, -100001, Integer.MIN_VALUE, Integer.MAX_VALUE}) {
@@ -326,8 +237,8 @@ public final class PromisesTest {
         corner(x, 2, 1000, 32);
     }
 
-    private static void promise7Land() {
-        SectionTemplates x = with("{L10 0}");
+    static void promise7Land() {
+        Road x = with("{L10 0}");
         for (int side : new int[] {0, 2, -2, Integer.MIN_VALUE, Integer.MAX_VALUE}) {
             no("side " + side, x.land(side, 5));
         }
@@ -343,8 +254,8 @@ public final class PromisesTest {
         no("not passed", x.passed(-1));
     }
 
-    private static void promise8Run() {
-        SectionTemplates x = new SectionTemplates();
+    static void promise8Run() {
+        Road x = new Road();
         is("read", read(x, "{}{L1000 25 B200 J50 -7}{L2 -500 L0 5 J0 9}"), 3);
         is("none such", x.run(-1), BAD);
         is("none such", x.run(3), BAD);
@@ -369,9 +280,9 @@ public final class PromisesTest {
         corner(x, 6, 2, 492);
     }
 
-    private static void promise8Conditions() {
+    static void promise8Conditions() {
         // On a ground that climbs to the right: left above it, right below it, on it at the axis.
-        SectionTemplates x = with("{?o(L10 0):(J0 5) ?c(J1 0) ?f(J2 0):(J3 0)}");
+        Road x = with("{?o(L10 0):(J0 5) ?c(J1 0) ?f(J2 0):(J3 0)}");
         yes("point", x.ground(-100, -100));
         yes("point", x.ground(100, 100));
         is("run", x.run(0), 6);
@@ -380,16 +291,16 @@ public final class PromisesTest {
         corner(x, 3, 10, 0);
         corner(x, 4, 11, 0);
         corner(x, 5, 14, 0);
-        SectionTemplates far = with("{?h10(J0 1) ?h9(J0 2) ?h0(J0 4)}");
+        Road far = with("{?h10(J0 1) ?h9(J0 2) ?h0(J0 4)}");
         yes("axis", far.axis(10, 0));
         is("10 is not more than 10", far.run(0), 5);
         corner(far, 1, 0, 8);
         corner(far, 0, 0, 4);
-        SectionTemplates thirds = with("{L1 0 ?h0(J0 0) L1 0 ?h1(J5 0)}");
+        Road thirds = with("{L1 0 ?h0(J0 0) L1 0 ?h1(J5 0)}");
         yes("point", thirds.ground(0, 0));
         yes("point", thirds.ground(3, 2));
         is("2/3 is more than 0, 4/3 is more than 1", thirds.run(0), 7);
-        SectionTemplates ends = with("{?o(W) L5 5 ?o(?o(L1 1 W L1 1))}");
+        Road ends = with("{?o(W) L5 5 ?o(?o(L1 1 W L1 1))}");
         is("nothing behind the end", ends.run(0), 3);
         is("nothing met behind the end", ends.count(5), 2);
         yes("axis", ends.axis(1, 0));
@@ -397,8 +308,8 @@ public final class PromisesTest {
         is("run", ends.count(5), 4);
     }
 
-    private static void promise8SlopesAndWalls() {
-        SectionTemplates x = with("{S1/2}");
+    static void promise8SlopesAndWalls() {
+        Road x = with("{S1/2}");
         is("on the ground", x.run(0), 3);
         corner(x, 0, 0, 0);
         corner(x, 2, 0, 0);
@@ -423,7 +334,7 @@ public final class PromisesTest {
         yes("axis", x.axis(300, 0));
         is("behind the last", x.run(0), 3);
         corner(x, 2, 1600, -500);
-        SectionTemplates wall = with("{J7 3 W L5 5}");
+        Road wall = with("{J7 3 W L5 5}");
         yes("point", wall.ground(-14, 5));
         yes("point", wall.ground(16, 25));
         is("the wall is the end", wall.run(0), 5);
@@ -433,8 +344,8 @@ public final class PromisesTest {
         corner(wall, 4, 0, 7, 1);
     }
 
-    private static void promise9Corner() {
-        SectionTemplates x = with("{L3 5 S7/3}");
+    static void promise9Corner() {
+        Road x = with("{L3 5 S7/3}");
         is("no section", x.corner(0, 0, 0), BAD);
         is("no section", x.corner(0, 0, -1), NONE);
         is("run", x.run(0), 5);
@@ -457,7 +368,7 @@ public final class PromisesTest {
         is("part", x.corner(0, 0, Integer.MAX_VALUE), 0);
         is("part", x.corner(0, 0, Integer.MAX_VALUE - 1), 0);
         // A flat slope from far below, to the level ground behind the last point.
-        SectionTemplates deep = with("{L99999 99999 L99999 99999 L99999 99999 L99999 99991 S97/99989}");
+        Road deep = with("{L99999 99999 L99999 99999 L99999 99999 L99999 99991 S97/99989}");
         yes("point", deep.ground(99000, 0));
         yes("point", deep.ground(100000, 999));
         is("run", deep.run(0), 11);
@@ -471,8 +382,8 @@ public final class PromisesTest {
         corner(deep, 10, 1, 999, 1);
     }
 
-    private static void promise10Code() {
-        SectionTemplates x = with("{L1 1 B1 J1 1 ?c(S1/1):(W)}");
+    static void promise10Code() {
+        Road x = with("{L1 1 B1 J1 1 ?c(S1/1):(W)}");
         is("no section", x.code(0), BAD);
         yes("axis", x.axis(0, 150));
         yes("point", x.ground(0, -3));
@@ -488,8 +399,8 @@ public final class PromisesTest {
         is("none such", x.code(Integer.MIN_VALUE), BAD);
     }
 
-    private static void promise11Ended() {
-        SectionTemplates x = with("{L100 0 ?c(S1/1) ?f(L5 0)}");
+    static void promise11Ended() {
+        Road x = with("{L100 0 ?c(S1/1) ?f(L5 0)}");
         no("no section", x.ended(1));
         no("no section", x.ended(-1));
         yes("point", x.ground(-100, -50));
@@ -512,8 +423,8 @@ public final class PromisesTest {
         no("right", x.ended(1));
     }
 
-    private static void promise12Passed() {
-        SectionTemplates x = with("{L100 0 J0 7 S1/3}");
+    static void promise12Passed() {
+        Road x = with("{L100 0 J0 7 S1/3}");
         yes("land", x.land(1, 0));
         no("no section", x.passed(1));
         is("run", x.run(0), 7);
@@ -530,20 +441,20 @@ public final class PromisesTest {
         yes("beyond", x.passed(-1));
         no("none such", x.land(-1, -1));
         yes("as before", x.passed(-1));
-        SectionTemplates part = with("{J0 1 S3/1}");
+        Road part = with("{J0 1 S3/1}");
         part.run(0);
         yes("land", part.land(1, 0));
         yes("a third beyond", part.passed(1));
         yes("land", part.land(1, 1));
         no("a third is not beyond 1", part.passed(1));
-        SectionTemplates axis = with("{}");
+        Road axis = with("{}");
         axis.run(0);
         yes("land", axis.land(1, 0));
         no("the axis is not beyond", axis.passed(1));
     }
 
-    private static void promise13Condition() {
-        SectionTemplates x = with("{?c() ?c():() ?f(?h5(W)) ?o(L1 0)}");
+    static void promise13Condition() {
+        Road x = with("{?c() ?c():() ?f(?h5(W)) ?o(L1 0)}");
         is("no section", x.condition(0), BAD);
         is("run", x.run(0), 3);
         is("met", x.count(5), 8);
@@ -570,8 +481,8 @@ public final class PromisesTest {
         is("as many", x.count(5), 8);
     }
 
-    private static void promise14Area() {
-        SectionTemplates x = with("{L100 0 S1/1}");
+    static void promise14Area() {
+        Road x = with("{L100 0 S1/1}");
         is("no section", x.area(true, 0), BAD);
         is("no section", x.area(false, 1), BAD);
         is("no section", x.area(true, -1), NONE);
@@ -608,8 +519,8 @@ public final class PromisesTest {
         area(x, false, 0, 1);
     }
 
-    private static void promise14AreaStays() {
-        SectionTemplates x = with("{L100 0}");
+    static void promise14AreaStays() {
+        Road x = with("{L100 0}");
         yes("point", x.ground(0, 50));
         is("run", x.run(0), 3);
         x.clear();
@@ -628,8 +539,8 @@ public final class PromisesTest {
         area(x, false, 110000, 1);
     }
 
-    private static void promise15Level() {
-        SectionTemplates x = with("{J0 10 L3 -500 J0 4 J4 1 W}");
+    static void promise15Level() {
+        Road x = with("{J0 10 L3 -500 J0 4 J4 1 W}");
         noLevel(x, 0);
         yes("axis", x.axis(100, 0));
         is("run", x.run(0), 11);
@@ -648,7 +559,7 @@ public final class PromisesTest {
         noLevel(x, Integer.MIN_VALUE);
         is("part", x.level(0, -2), BAD);
         is("part", x.level(0, Integer.MAX_VALUE), 0);
-        SectionTemplates slope = with("{S2/3}");
+        Road slope = with("{S2/3}");
         yes("axis", slope.axis(-5, 0));
         is("run", slope.run(0), 3);
         level(slope, 7, -1, 3);
@@ -662,8 +573,8 @@ public final class PromisesTest {
         noLevel(slope, 10);
     }
 
-    private static void promise16Keep() {
-        SectionTemplates x = with("{J3 0}");
+    static void promise16Keep() {
+        Road x = with("{J3 0}");
         is("no section", x.keep(0), BAD);
         yes("axis", x.axis(-10, 0));
         x.run(0);
@@ -680,7 +591,7 @@ public final class PromisesTest {
         is("last", x.keep(100000), 20);
         is("kept", x.count(3), 20);
         is("there are 20", x.keep(100000), BAD);
-        SectionTemplates full = with("{}");
+        Road full = with("{}");
         full.run(0);
         for (int n = 0; n < 20; n++) {
             is("next", full.keep(n), n + 1);
@@ -688,8 +599,8 @@ public final class PromisesTest {
         is("there are 20", full.keep(20), BAD);
     }
 
-    private static void promise17Volume() {
-        SectionTemplates x = with("{J3 0 ?f(J1 1)}");
+    static void promise17Volume() {
+        Road x = with("{J3 0 ?f(J1 1)}");
         for (int part = -1; part < 4; part++) {
             is("no volume", x.volume(true, part), part == 1 ? 1 : 0);
         }
@@ -743,8 +654,8 @@ public final class PromisesTest {
         is("none", x.volume(true, 4), 0);
     }
 
-    private static void promise18Count() {
-        SectionTemplates x = new SectionTemplates();
+    static void promise18Count() {
+        Road x = new Road();
         is("read", read(x, "{?o(L1 1)}{}"), 2);
         yes("point", x.ground(3, 0));
         yes("sign", x.unit('?'));

@@ -1,12 +1,16 @@
 import java.math.BigInteger;
 import java.util.ArrayList;
+import java.util.Collections;
 import java.util.List;
 import java.util.Random;
 import java.util.TreeSet;
 
-/** Random runs of calls, each answered by the class and by a slow reference that is written another way. */
+/**
+ * Random runs of calls, each answered by the class and by a slow reference that is written another way. A run has as
+ * many calls as the document lets an object have, at most.
+ */
 public final class ReferenceTest {
-    private static final int RUNS = 3000;
+    private static final int RUNS = 9000;
     private static int wrong;
     private static int compared;
     private static int longest;
@@ -16,39 +20,14 @@ public final class ReferenceTest {
         for (int seed = 0; seed < runs && wrong < 20; seed++) {
             new Run(seed).go();
         }
-        crowded();
+        for (int n = 0; n < runs / 60 && wrong < 20; n++) {
+            new Run(1000000 + n).goCrowded();
+            new Run(2000000 + n).goZigzag();
+        }
         System.out.println(compared + " answers compared, the longest fraction with " + longest + " digits; "
                 + wrong + " wrong");
-        if (wrong > 0 || longest < 200) {
+        if (wrong > 0 || longest < 240) {
             System.exit(1);
-        }
-    }
-
-    /** Each step goes through the ground from one side to the other, so that the areas' fractions grow long. */
-    private static void crowded() {
-        Random random = new Random(77);
-        for (int n = 0; n < 60; n++) {
-            Run run = new Run(1000000 + n);
-            StringBuilder text = new StringBuilder("{");
-            boolean jumps = n % 2 == 0;
-            int steps = n % 3 == 0 ? 11 : 12;
-            for (int i = 0; i < steps; i++) {
-                int width = 7001 + random.nextInt(1900);
-                int down = (jumps ? 90000 : 11000) + random.nextInt(jumps ? 9999 : 3000);
-                text.append(jumps ? "J" : "L").append(width).append(i % 2 == 0 ? " " : " -").append(down);
-            }
-            if (steps == 11) {
-                text.append("S").append(random.nextInt(99999) + 1).append("/").append(random.nextInt(99999) + 1);
-            }
-            run.text(text.append("}").toString());
-            int off = -100000;
-            for (int i = 0; i < 12; i++) {
-                run.ground(off, (i % 2 == 0 ? 1 : -1) * random.nextInt(20000));
-                off += 17000 + random.nextInt(1100);
-            }
-            run.axis(47000 + random.nextInt(2000), random.nextInt(301) - 150);
-            run.walk(0);
-            run.lookAtAll();
         }
     }
 
@@ -57,7 +36,7 @@ public final class ReferenceTest {
         final Random random;
         /** Small numbers meet one another: slopes touch points, corners lie on the ground. */
         final boolean tiny;
-        final SectionTemplates x = new SectionTemplates();
+        final Road x = new Road();
         final Reference r = new Reference();
 
         Run(int seed) {
@@ -82,15 +61,11 @@ public final class ReferenceTest {
             for (char sign : text.toCharArray()) {
                 due("unit(" + (int) sign + ")", x.unit(sign), r.unit(sign));
             }
-            due("count(4)", x.count(4), r.signs.length());
             due("read() of " + text, x.read(), r.read());
-            due("count(0)", x.count(0), r.templates.size());
-            due("count(4)", x.count(4), 0);
         }
 
         void ground(int off, int level) {
             due("ground(" + off + ", " + level + ")", x.ground(off, level), r.ground(off, level));
-            due("count(1)", x.count(1), r.offs.size());
         }
 
         void axis(int level, int bank) {
@@ -102,32 +77,125 @@ public final class ReferenceTest {
         }
 
         void go() {
-            for (int n = 0; n < 14; n++) {
-                int what = random.nextInt(12);
-                if (what < 2 || n == 0) {
-                    String text = new Text(random, tiny).tell();
-                    text(random.nextInt(3) == 0 ? spoil(text) : text);
-                } else if (what < 4) {
-                    if (random.nextInt(3) == 0) {
-                        x.clear();
-                        r.clear();
-                    }
-                    points();
-                } else if (what < 6) {
-                    axis(level(), random.nextInt(320) - 160);
-                } else if (what < 7) {
-                    int side = random.nextInt(4) == 0 ? random.nextInt(5) - 2 : random.nextBoolean() ? 1 : -1;
-                    int far = random.nextInt(4) == 0 ? random.nextInt(1200000) - 100000 : random.nextInt(30000);
-                    due("land(" + side + ", " + far + ")", x.land(side, far), r.land(side, far));
-                } else {
-                    walk(r.templates.isEmpty() ? 0 : random.nextInt(r.templates.size() + 2) - random.nextInt(2));
+            try {
+                int acts = 4 + random.nextInt(14);
+                for (int n = 0; n < acts; n++) {
+                    act(n);
+                    ask(questions(), random.nextInt(random.nextInt(4) == 0 ? 60 : 8));
                 }
-                if (n > 8 && random.nextBoolean()) {
-                    int metre = n * 5000 + random.nextInt(7000) - 40000;
-                    due("keep(" + metre + ")", x.keep(metre), r.keep(metre));
-                    due("count(3)", x.count(3), r.metres.size());
+                look();
+            } catch (Road.Spent spent) {
+                // The object has had its last call, so the run is over.
+            }
+        }
+
+        void act(int n) {
+            int what = random.nextInt(12);
+            if (what < 2 || n == 0) {
+                String text = new Text(random, tiny).tell();
+                text(random.nextInt(3) == 0 ? spoil(text) : text);
+            } else if (what < 4) {
+                if (random.nextInt(3) == 0) {
+                    x.clear();
+                    r.clear();
                 }
-                lookAtAll();
+                points();
+            } else if (what < 6) {
+                axis(level(), random.nextInt(320) - 160);
+            } else if (what < 7) {
+                int side = random.nextInt(4) == 0 ? random.nextInt(5) - 2 : random.nextBoolean() ? 1 : -1;
+                int far = random.nextInt(4) == 0 ? random.nextInt(1200000) - 100000 : random.nextInt(30000);
+                due("land(" + side + ", " + far + ")", x.land(side, far), r.land(side, far));
+            } else {
+                walk(r.templates.isEmpty() ? 0 : random.nextInt(r.templates.size() + 2) - random.nextInt(2));
+            }
+            if (random.nextInt(3) == 0) {
+                int metre = n * 5000 + random.nextInt(7000) - 4000;
+                due("keep(" + metre + ")", x.keep(metre), r.keep(metre));
+            }
+        }
+
+        /** Each step goes through the ground from one side to the other, so that the areas' fractions grow long. */
+        void goCrowded() {
+            StringBuilder text = new StringBuilder("{");
+            boolean jumps = random.nextBoolean();
+            int steps = random.nextBoolean() ? 11 : 12;
+            for (int i = 0; i < steps; i++) {
+                int width = 7001 + random.nextInt(1900);
+                int down = (jumps ? 90000 : 11000) + random.nextInt(jumps ? 9999 : 3000);
+                text.append(jumps ? "J" : "L").append(width).append(i % 2 == 0 ? " " : " -").append(down);
+            }
+            if (steps == 11) {
+                text.append("S").append(random.nextInt(99999) + 1).append("/").append(random.nextInt(99999) + 1);
+            }
+            text(text.append("}").toString());
+            int off = -100000;
+            for (int i = 0; i < 12; i++) {
+                ground(off, (i % 2 == 0 ? 1 : -1) * random.nextInt(20000));
+                off += 17000 + random.nextInt(1100);
+            }
+            axis(47000 + random.nextInt(2000), random.nextInt(301) - 150);
+            walkAndLook();
+        }
+
+        /**
+         * The ground goes up and down, with two corners between each two of its points, and at each point and corner
+         * the section lies on the other side of the ground: 36 crossings, more than which there cannot be.
+         */
+        void goZigzag() {
+            int[] offs = new int[6];
+            int[] levels = new int[6];
+            for (int i = 0; i < 6; i++) {
+                offs[i] = 8000 + 16000 * i + random.nextInt(900);
+                levels[i] = (i % 2 == 0 ? 1 : -1) * (58000 + random.nextInt(2000));
+            }
+            zigzagGround(offs, levels);
+            int axis = levels[0] + 15000 + random.nextInt(5000);
+            text(zigzagText(offs, levels, axis));
+            axis(axis, 0);
+            walkAndLook();
+        }
+
+        /** Left nearly as right, but for some mm, so that no two crossings have their lower parts in common. */
+        void zigzagGround(int[] offs, int[] levels) {
+            for (int i = -6; i < 6; i++) {
+                int point = i < 0 ? -1 - i : i;
+                int near = random.nextInt(199) - 99;
+                ground(i < 0 ? -offs[point] + near : offs[point], i < 0 ? levels[point] + near : levels[point]);
+            }
+        }
+
+        /** Behind each point of the ground two corners, the first on the other side of the ground than there. */
+        String zigzagText(int[] offs, int[] levels, int axis) {
+            StringBuilder text = new StringBuilder("{");
+            int out = 0;
+            long height = 1000L * axis;
+            for (int i = 0; i < 6; i++) {
+                for (int half = 0; half < 2; half++) {
+                    int next = offs[i] + 5000 + 5500 * half + random.nextInt(400);
+                    int to = i < 5 ? i + 1 : 5;
+                    int between = i < 5 ? offs[to] - offs[i] : 1;
+                    long rise = levels[to] - levels[i];
+                    long ground = levels[i] + rise * (next - offs[i]) / between;
+                    int way = (i + half) % 2 == 0 ? 1 : -1;
+                    long drop = height - 1000 * (ground + way * (15000 + random.nextInt(9000)));
+                    int width = next - out;
+                    boolean lane = seed % 3 == 0 || seed % 3 == 1 && random.nextBoolean();
+                    long down = drop / (lane ? width : 1000);
+                    text.append(lane ? "L" : "J").append(width).append(" ").append(down);
+                    out = next;
+                    height -= down * (lane ? width : 1000);
+                }
+            }
+            return text.append("}").toString();
+        }
+
+        void walkAndLook() {
+            try {
+                walk(0);
+                look();
+            } catch (Road.Spent spent) {
+                // The object has had its last call, so the run is over.
             }
         }
 
@@ -173,42 +241,100 @@ public final class ReferenceTest {
             return spoilt.toString();
         }
 
-        void lookAtAll() {
-            due("count(2)", x.count(2), r.corners.size());
-            due("count(5)", x.count(5), r.taken.size());
-            for (int side = -2; side <= 2; side++) {
-                due("ended(" + side + ")", x.ended(side), r.ended(side));
-                due("passed(" + side + ")", x.passed(side), r.passed(side));
-            }
-            for (int k = -1; k <= r.corners.size(); k++) {
-                boolean there = k >= 0 && k < r.corners.size();
-                due("code(" + k + ")", x.code(k), there ? r.corners.get(k).code : -1);
-                for (int axis = -1; axis <= 2; axis++) {
-                    Rational value = !there || axis < 0 || axis > 1 ? null
-                            : axis == 0 ? r.corners.get(k).off : r.corners.get(k).level;
-                    for (int part = -2; part < 6; part++) {
-                        String call = "corner(" + k + ", " + axis + ", " + part + ")";
-                        due(call, x.corner(k, axis, part), part(value, part));
-                    }
-                }
-            }
-            for (int k = -1; k <= r.taken.size(); k++) {
-                due("condition(" + k + ")", x.condition(k), k >= 0 && k < r.taken.size() ? r.taken.get(k) : -1);
-            }
-            for (int cut = 0; cut < 2; cut++) {
-                Rational area = r.walked ? r.area(cut == 1) : null;
-                Rational volume = r.volume(cut == 1);
-                int most = area == null ? 4 : 2 * (area.low.toString().length() / 18) + 6;
-                longest = Math.max(longest, area == null ? 0 : area.low.toString().length());
-                for (int part = -2; part < most; part++) {
-                    due("area(" + (cut == 1) + ", " + part + ")", x.area(cut == 1, part), part(area, part));
-                    due("volume(" + (cut == 1) + ", " + part + ")", x.volume(cut == 1, part), part(volume, part));
-                }
-            }
-            lookAtLevels();
+        /** The areas first, as they are the hardest, then all else in any order, as long as there are calls left. */
+        void look() {
+            ask(areas(), Road.MOST_CALLS);
+            ask(questions(), Road.MOST_CALLS);
         }
 
-        void lookAtLevels() {
+        void ask(List<Runnable> questions, int most) {
+            Collections.shuffle(questions, random);
+            for (int i = 0; i < most && i < questions.size(); i++) {
+                questions.get(i).run();
+            }
+        }
+
+        List<Runnable> areas() {
+            List<Runnable> questions = new ArrayList<>();
+            for (int n = 0; n < 2; n++) {
+                boolean cut = n == 1;
+                Rational area = r.walked ? r.area(cut) : null;
+                int digits = area == null ? 0 : area.low.toString().length();
+                longest = Math.max(longest, digits);
+                for (int part = -2; part < 2 * (digits / 18) + 6; part++) {
+                    int k = part;
+                    questions.add(() -> due("area(" + cut + ", " + k + ")", x.area(cut, k), part(area, k)));
+                }
+            }
+            return questions;
+        }
+
+        List<Runnable> questions() {
+            List<Runnable> questions = new ArrayList<>();
+            addCounts(questions);
+            addSides(questions);
+            addCorners(questions);
+            addConditions(questions);
+            addVolumes(questions);
+            addLevels(questions);
+            return questions;
+        }
+
+        void addCounts(List<Runnable> questions) {
+            questions.add(() -> due("count(0)", x.count(0), r.templates.size()));
+            questions.add(() -> due("count(1)", x.count(1), r.offs.size()));
+            questions.add(() -> due("count(2)", x.count(2), r.corners.size()));
+            questions.add(() -> due("count(3)", x.count(3), r.metres.size()));
+            questions.add(() -> due("count(4)", x.count(4), r.signs.length()));
+            questions.add(() -> due("count(5)", x.count(5), r.taken.size()));
+        }
+
+        void addSides(List<Runnable> questions) {
+            for (int n = -2; n <= 2; n++) {
+                int side = n;
+                questions.add(() -> due("ended(" + side + ")", x.ended(side), r.ended(side)));
+                questions.add(() -> due("passed(" + side + ")", x.passed(side), r.passed(side)));
+            }
+        }
+
+        void addCorners(List<Runnable> questions) {
+            for (int n = -1; n <= r.corners.size(); n++) {
+                int k = n;
+                boolean there = k >= 0 && k < r.corners.size();
+                questions.add(() -> due("code(" + k + ")", x.code(k), there ? r.corners.get(k).code : -1));
+                for (int axis = there ? 0 : -1; axis <= (there ? 1 : 2); axis++) {
+                    Rational value = !there ? null : axis == 0 ? r.corners.get(k).off : r.corners.get(k).level;
+                    addParts(questions, k, axis, value);
+                }
+            }
+        }
+
+        void addParts(List<Runnable> questions, int k, int axis, Rational value) {
+            for (int n = -2; n < 5; n++) {
+                int part = n;
+                questions.add(() -> due("corner(" + k + ", " + axis + ", " + part + ")", x.corner(k, axis, part),
+                        part(value, part)));
+            }
+        }
+
+        void addConditions(List<Runnable> questions) {
+            for (int n = -1; n <= r.taken.size(); n++) {
+                int k = n;
+                int want = k >= 0 && k < r.taken.size() ? r.taken.get(k) : -1;
+                questions.add(() -> due("condition(" + k + ")", x.condition(k), want));
+            }
+        }
+
+        void addVolumes(List<Runnable> questions) {
+            for (int n = -4; n < 10; n++) {
+                boolean cut = n % 2 == 0;
+                int part = n / 2;
+                questions.add(() -> due("volume(" + cut + ", " + part + ")", x.volume(cut, part),
+                        part(r.volume(cut), part)));
+            }
+        }
+
+        void addLevels(List<Runnable> questions) {
             TreeSet<Integer> places = new TreeSet<>();
             for (Corner corner : r.corners) {
                 BigInteger whole = corner.off.up.divide(corner.off.low);
@@ -223,9 +349,10 @@ public final class ReferenceTest {
             places.add(Integer.MAX_VALUE);
             places.add(random.nextInt());
             for (int off : places) {
-                Rational level = r.level(off);
-                for (int part = -2; part < 4; part++) {
-                    due("level(" + off + ", " + part + ")", x.level(off, part), part(level, part));
+                for (int n = -2; n < 4; n++) {
+                    int part = n;
+                    questions.add(() -> due("level(" + off + ", " + part + ")", x.level(off, part),
+                            part(r.level(off), part)));
                 }
             }
         }
