@@ -384,7 +384,6 @@ public final class SectionTemplates {
             into.empty();
             at = 0;
             wrong = false;
-            skipBlanks();
             // Each turn takes a sign at least, or ends with a fault.
             for (int n = 0; n <= MOST_SIGNS && !wrong; n++) {
                 if (at >= size && into.size > 0) {

@@ -188,6 +188,35 @@ public final class SectionBoundariesTest extends Checks {
         end(below, -1, -1062, 1, 500, 1);
     }
 
+    /** A point that the slope passes by a thousandth of a mm is none where it meets the ground. */
+    static void termsSlopeMissesAPointByAThousandth() {
+        Road above = on(10, "{L1 -1 S1/1}", -12, -500, -11, 0, -10, -500, 10, -500, 11, 0, 12, -500);
+        is("run", above.run(0), 5);
+        end(above, -1, -511001, 1000, -500, 1);
+        end(above, 1, 511001, 1000, -500, 1);
+        Road below = on(-10, "{L1 1 S1/1}", -12, 500, -11, 0, -10, 500, 10, 500, 11, 0, 12, 500);
+        is("run", below.run(0), 5);
+        end(below, -1, -511001, 1000, 500, 1);
+        end(below, 1, 511001, 1000, 500, 1);
+    }
+
+    /** All points of the ground lie on one side: there the nearest one counts first, on the other side none. */
+    static void termsSlopeBeforeAllPoints() {
+        Road right = on(0, "{S1/1}", 10, 5, 20, -50, 30, 900);
+        is("run", right.run(0), 3);
+        end(right, 1, 5, 1, 5, 1);
+        end(right, -1, -5, 1, 5, 1);
+        Road left = on(0, "{S1/1}", -30, 900, -20, -50, -10, 5);
+        is("run", left.run(0), 3);
+        end(left, 1, 5, 1, 5, 1);
+        end(left, -1, -5, 1, 5, 1);
+        Road farther = on(-10, "{S1/1}", 10, 5, 14, 2, 30, 900);
+        is("run", farther.run(0), 3);
+        // 5 below the first point; from there 1 and 3/4 nearer each mm, until it is 2 above the second one.
+        end(farther, 1, 90, 7, 20, 7);
+        end(farther, -1, -15, 1, 5, 1);
+    }
+
     /** Of several places where it would meet the ground, the first one. */
     static void termsSlopeMeetsTheFirstOfSeveral() {
         Road x = on(-10, "{S1/1}", 0, 0, 20, -5, 40, 200, 60, -200);
@@ -332,6 +361,25 @@ public final class SectionBoundariesTest extends Checks {
         is("run", x.run(0), 3);
         is("by W", x.code(2), 5);
         is("met", x.count(5), 2);
+    }
+
+    /** As many steps as four templates and a text can hold, each a question with others. */
+    static void termsQuestionsWithOthersAlone() {
+        Road x = with(4, ("{" + "?c():()".repeat(12) + "}").repeat(3) + "{" + "?c():()".repeat(9) + "?c(J5 0):(J7 0)}");
+        for (int n = 0; n < 3; n++) {
+            is("run", x.run(n), 1);
+            is("met", x.count(5), 24);
+            is("took", x.condition(23), 2);
+        }
+        is("run", x.run(3), 3);
+        corner(x, 2, 7, 0);
+        yes("below", x.axis(-1, 0));
+        is("run", x.run(2), 1);
+        is("took", x.condition(0), 1);
+        is("took", x.condition(23), 1);
+        is("run", x.run(3), 3);
+        corner(x, 0, -5, -1);
+        is("met", x.count(5), 20);
     }
 
     /** "until the side ends": also inside of ( ), and nothing behind it is met. */
@@ -809,6 +857,16 @@ public final class SectionBoundariesTest extends Checks {
         // Left, the ground is level at 1.
         area(x, true, 7, 2);
         area(x, false, 2, 1);
+    }
+
+    /** All points of the ground lie on one side of the axis. */
+    static void promise14PointsOnOneSide() {
+        Road right = on(0, "{L9 0}", 3, 2, 6, 4, 9, 2);
+        is("run", right.run(0), 3);
+        area(right, true, 18 + 6 + 18, 1);
+        Road left = on(0, "{L9 0}", -9, 2, -6, 4, -3, 2);
+        is("run", left.run(0), 3);
+        area(left, true, 18 + 6 + 18, 1);
     }
 
     /** Ground at a point right at the axis, at a corner, and beyond all corners. */
