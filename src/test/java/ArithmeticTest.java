@@ -157,11 +157,15 @@ public final class ArithmeticTest {
         field.setInt(whole, size);
     }
 
+    /** The number that the limbs tell, or -1 where they are none of nine digits each, or a 0 in front. */
     private static BigInteger value(Object whole) throws Exception {
         long[] limbs = (long[]) field(whole, "limbs");
         int size = (int) field(whole, "size");
         BigInteger value = BigInteger.ZERO;
         for (int i = size - 1; i >= 0; i--) {
+            if (limbs[i] < 0 || limbs[i] >= BASE.longValue()) {
+                return BigInteger.ONE.negate();
+            }
             value = value.multiply(BASE).add(BigInteger.valueOf(limbs[i]));
         }
         if (size > 0 && limbs[size - 1] == 0) {

@@ -586,8 +586,18 @@ public final class SectionBoundariesTest extends Checks {
         level(x, 1, -1, 4);
     }
 
-    /** Numbers around 10^18, at the end of a slope: its OFF is 99,999 + GAP * OUT / UP. */
-    static void termsEighteenDigitsAndNineteen() {
+    /** The parts of an upper and a lower number that are not in least terms yet, each of 36 digits at most. */
+    private static long[] partsOf(BigInteger up, BigInteger low) {
+        BigInteger common = up.gcd(low);
+        BigInteger[] ups = up.abs().divide(common).divideAndRemainder(BigInteger.TEN.pow(18));
+        BigInteger[] lows = low.divide(common).divideAndRemainder(BigInteger.TEN.pow(18));
+        return new long[] {
+            ups[1].longValueExact(), lows[1].longValueExact(), ups[0].longValueExact(), lows[0].longValueExact(), 0, 0,
+        };
+    }
+
+    /** From the deepest corners that may be, up to the level ground: GAP * OUT / UP out from there. */
+    static void termsEndOfTheDeepestSlopes() {
         for (int steps = 8; steps <= 11; steps++) {
             Road x = on(-100000, "{" + "L99999 99999".repeat(steps) + "S99991/99989}");
             is("run", x.run(0), 2 * steps + 3);
@@ -595,11 +605,60 @@ public final class SectionBoundariesTest extends Checks {
             BigInteger low = BigInteger.valueOf(99991000L);
             BigInteger up = gap.multiply(BigInteger.valueOf(99989L))
                     .add(low.multiply(BigInteger.valueOf(99999L * steps)));
-            BigInteger common = up.gcd(low);
-            is("low", x.corner(0, 0, 1), low.divide(common).longValueExact());
-            is("up", x.corner(0, 0, 0), up.divide(common).longValueExact());
+            long[] parts = partsOf(up, low);
+            for (int part = 0; part < parts.length; part++) {
+                is("part " + part, x.corner(0, 0, part), parts[part]);
+            }
             is("sign", x.corner(0, 0, -1), -1);
         }
+    }
+
+    /**
+     * "the lowest eighteen digits .. 2 and 3 the next eighteen": the OFF of a slope's end, between the last number of
+     * eighteen digits and the first of nineteen. The slope begins 1 mm out, a thousandth of a mm below -DEPTH; the
+     * ground falls towards it from 100,000 at -100,000 to -99,998 at 99,999.
+     */
+    static void termsEighteenDigitsAndNineteen() {
+        int nineteen = 0;
+        for (int depth = 49990; depth <= 50010; depth++) {
+            Road x = on(-depth, "{L1 1 S99991/99989}", -100000, 100000, 99999, -99998);
+            is("run", x.run(0), 5);
+            // Both rise by thousandths over 199,999 * 99,989 each mm; the gap at 1 closes by their difference.
+            BigInteger scale = BigInteger.valueOf(199999L * 99989L);
+            BigInteger rise = BigInteger.valueOf(1000L * (99991L * 199999L + 199998L * 99989L));
+            BigInteger ground = BigInteger.valueOf(100000L * 199999L - 199998L * 100001L);
+            BigInteger gap = ground.multiply(BigInteger.valueOf(99989L * 1000L))
+                    .add(scale.multiply(BigInteger.valueOf(1000L * depth + 1)));
+            long[] parts = partsOf(rise.add(gap), rise);
+            nineteen += parts[2] > 0 ? 1 : 0;
+            is("sign", x.corner(4, 0, -1), 1);
+            for (int part = 0; part < parts.length; part++) {
+                is("part " + part, x.corner(4, 0, part), parts[part]);
+            }
+        }
+        yes("some of nineteen", nineteen > 0);
+        yes("some of eighteen", nineteen < 21);
+    }
+
+    /** The lower part, too, may have more than eighteen digits: of two triangles that have no factor in common. */
+    static void termsLowerPartOfMoreThanEighteenDigits() {
+        Road x = on(-99991, "{S99991/99989}", -99961, -99990, 0, 99997, 99971, -99988);
+        is("run", x.run(0), 3);
+        long gap = 99991 + 99997;
+        // A side's end is at GAP * OUT * WIDTH / (UP * WIDTH + FALL * OUT), its area half of GAP by that.
+        long leftLow = 99991L * 99961L + 199987L * 99989L;
+        long rightLow = 99991L * 99971L + 199985L * 99989L;
+        BigInteger square = BigInteger.valueOf(gap).pow(2).multiply(BigInteger.valueOf(99989L));
+        BigInteger left = square.multiply(BigInteger.valueOf(99961L)).multiply(BigInteger.valueOf(rightLow));
+        BigInteger right = square.multiply(BigInteger.valueOf(99971L)).multiply(BigInteger.valueOf(leftLow));
+        BigInteger low = BigInteger.TWO.multiply(BigInteger.valueOf(leftLow)).multiply(BigInteger.valueOf(rightLow));
+        long[] parts = partsOf(left.add(right), low);
+        yes("more than eighteen", parts[3] > 0);
+        is("sign", x.area(true, -1), 1);
+        for (int part = 0; part < parts.length; part++) {
+            is("part " + part, x.area(true, part), parts[part]);
+        }
+        area(x, false, 0, 1);
     }
 
     // Promise 10: "A corner's code. BAD: none such."
